@@ -28,9 +28,9 @@ public final class SplitWatch {
     }
 
     public int begin(int c, int k, int fast, int slow) {
-        boolean told = isWithin(c, MIN_CORES, MAX_CORES) && isWithin(k, 1, MAX_CAPACITY)
+        boolean allTold = isWithin(c, MIN_CORES, MAX_CORES) && isWithin(k, 1, MAX_CAPACITY)
                 && isWithin(fast, 1, MAX_DELAY) && isWithin(slow, 1, MAX_DELAY);
-        if (!told) {
+        if (!allTold) {
             return BAD;
         }
         bus.reset(c, k, fast, slow);
@@ -93,9 +93,7 @@ public final class SplitWatch {
         int taken = 0;
         int at = 0;
         for (int n = 0; n < Script.MAX_LENGTH && at < script.length; n++) {
-            if (!script.understand(at, bus.coreCount)) {
-                return NO;
-            }
+            script.understand(at, bus.coreCount);
             int[] numbers = script.numbers;
             if (!isRefusal(bus.perform(script.verb, numbers[0], numbers[1], numbers[2]))) {
                 taken++;
@@ -238,10 +236,14 @@ public final class SplitWatch {
         if (!isWithin(z, 0, MAX_SEED) || !isWithin(n, 1, MAX_DAY)) {
             return BAD;
         }
+        int cores = Math.max(bus.coreCount, 1);
         int taken = 0;
         for (int k = 0; k < n; k++) {
             long x = 7919L * z + 6151L * k + 1;
-            if (!isRefusal(performDrawn((int) (x * x % 65521)))) {
+            int draw = (int) (x * x % 65521);
+            int verb = draw % 4;
+            int first = verb == DO_TURN ? 1 : draw / 4 % cores;
+            if (!isRefusal(bus.perform(verb, first, draw / 64 % LINES, draw / 512 % 100))) {
                 taken++;
             }
         }
@@ -263,16 +265,6 @@ public final class SplitWatch {
             case 10: return script.length;
             default: return BAD;
         }
-    }
-
-    private int performDrawn(int draw) {
-        int verb = draw % 4;
-        if (verb == DO_TURN) {
-            return bus.runTurns(1);
-        }
-        int cores = bus.coreCount;
-        int c = cores > 0 ? draw / 4 % cores : 0;
-        return bus.perform(verb, c, draw / 64 % LINES, draw / 512 % 100);
     }
 
     private static boolean isWithin(int number, int low, int high) {
@@ -371,10 +363,6 @@ public final class SplitWatch {
         private Request(int core) {
             this.core = core;
         }
-
-        private boolean waitsToGoBack(int l) {
-            return stage == WAITING && kind == BACK && line == l;
-        }
     }
 
     /**
@@ -418,7 +406,7 @@ public final class SplitWatch {
         /** The back of a line, or null: the line is not in the buffer. */
         private Request backOf(int l) {
             for (int i = 0; i < BUFFER; i++) {
-                if (backs[i].waitsToGoBack(l)) {
+                if (backs[i].stage == WAITING && backs[i].line == l) {
                     return backs[i];
                 }
             }
@@ -505,7 +493,7 @@ public final class SplitWatch {
 
     /** The cores, the memory and the bus between them. Its callers have looked at cores and lines. */
     private static final class Bus {
-        private static final int SLOTS = 1 + Core.BUFFER, PATIENCE = 3;
+        private static final int SLOTS = 1 + Core.BUFFER, PATIENCE = 3, ABOVE_PLACES = 1 << 30;
 
         private final Core[] cores = new Core[MAX_CORES];
         private final Request[] requests = new Request[MAX_CORES * SLOTS];
@@ -700,11 +688,19 @@ public final class SplitWatch {
                 sendAway(request);
                 return;
             }
+            boolean stillShared = cores[request.core].cache.state[request.line] == SHARED;
             switch (request.kind) {
                 case BACK: orderBack(request); break;
-                case RISE: orderRise(request); break;
                 case READ: orderRead(request); break;
-                default: orderOwn(request, 'O'); break;
+                case OWN: orderOwn(request, 'O'); break;
+                default:
+                    if (stillShared) {
+                        orderRise(request);
+                    } else {
+                        beaten++;
+                        orderOwn(request, 'W');
+                    }
+                    break;
             }
         }
 
@@ -722,24 +718,19 @@ public final class SplitWatch {
         }
 
         private void orderRise(Request request) {
-            int l = request.line;
-            Cache own = cores[request.core].cache;
-            if (own.state[l] != SHARED) {
-                beaten++;
-                orderOwn(request, 'W');
-                return;
-            }
-            log.add(request.core, 'U', l);
-            takeFromOthers(request.core, l);
-            own.put(l, CHANGED, request.value);
+            log.add(request.core, 'U', request.line);
+            takeFromOthers(request.core, request.line);
+            cores[request.core].cache.put(request.line, CHANGED, request.value);
             request.stage = IDLE;
             ended++;
         }
 
         private void orderRead(Request request) {
             int l = request.line;
-            openUp(request);
             log.add(request.core, 'R', l);
+            request.stage = OPEN;
+            request.orderedAs = log.total;
+            request.due = now + answerTime(request.core, l);
             request.toBe = ALONE;
             for (int c = 0; c < coreCount; c++) {
                 if (c != request.core) {
@@ -749,31 +740,28 @@ public final class SplitWatch {
                     }
                 }
             }
-            // Shared copies are alike with memory, and sole ones and buffered ones have just come there.
+            // Shared copies are alike with memory, and a sole or buffered one has just come there.
             request.value = kept[l];
         }
 
         private void orderOwn(Request request, char letter) {
-            openUp(request);
-            log.add(request.core, letter, request.line);
+            int l = request.line;
+            log.add(request.core, letter, l);
             request.kind = OWN;
-            request.toBe = CHANGED;
-            takeFromOthers(request.core, request.line);
-        }
-
-        private void openUp(Request request) {
             request.stage = OPEN;
             request.orderedAs = log.total;
-            request.due = now + (comesFast(request.core, request.line) ? fast : slow);
+            request.due = now + answerTime(request.core, l);
+            request.toBe = CHANGED;
+            takeFromOthers(request.core, l);
         }
 
-        private boolean comesFast(int asker, int l) {
+        private int answerTime(int asker, int l) {
             for (int c = 0; c < coreCount; c++) {
                 if (c != asker && (cores[c].cache.isSole(l) || cores[c].backOf(l) != null)) {
-                    return true;
+                    return fast;
                 }
             }
-            return false;
+            return slow;
         }
 
         private void bringToMemory(Core core, int l) {
@@ -811,20 +799,17 @@ public final class SplitWatch {
             return null;
         }
 
-        private boolean isUrgent(Request request) {
-            return request.sent >= PATIENCE && openOf(request.line) == null;
-        }
-
-        private boolean goesAhead(Request one, Request other) {
-            boolean urgent = isUrgent(one);
-            return urgent == isUrgent(other) ? one.place < other.place : urgent;
+        /** A lower key is ordered first: those sent away often, once their line is free, by place; then the others. */
+        private int keyOf(Request request) {
+            boolean urgent = request.sent >= PATIENCE && openOf(request.line) == null;
+            return urgent ? request.place - ABOVE_PLACES : request.place;
         }
 
         private Request nextWaiting() {
             Request first = null;
             for (int i = 0; i < requests.length; i++) {
                 Request request = requests[i];
-                if (request.stage == WAITING && (first == null || goesAhead(request, first))) {
+                if (request.stage == WAITING && (first == null || keyOf(request) < keyOf(first))) {
                     first = request;
                 }
             }
@@ -843,7 +828,7 @@ public final class SplitWatch {
         private int waitingAheadOf(Request request) {
             int ahead = 0;
             for (int i = 0; i < requests.length; i++) {
-                if (requests[i].stage == WAITING && goesAhead(requests[i], request)) {
+                if (requests[i].stage == WAITING && keyOf(requests[i]) < keyOf(request)) {
                     ahead++;
                 }
             }
