@@ -126,10 +126,14 @@ public final class SplitWatch {
             return BAD;
         }
         String name = bus.nameOf(c, l);
+        int length = name.length();
         if (i == HOW_MANY) {
-            return name.length();
+            return length;
         }
-        return i < name.length() ? name.charAt(i) : NONE;
+        if (i >= length) {
+            return NONE;
+        }
+        return name.charAt(i);
     }
 
     // ---- looked at

@@ -137,9 +137,21 @@ public final class PromiseTest {
         type(x, "turn 9;");
         x.turn(5);
         fetch(x, 0, 2);
-        x.store(1, 7, 7);
-        x.read(0, 3);
+        x.store(0, 2, 1);
+        x.store(1, 2, 2);
+        x.turn(2);
+        x.turn(5);
+        x.read(0, 4);
         x.turn(1);
+        due(2, "one was beaten", x.count(7), 1);
+        x.store(2, 4, 3);
+        x.turn(1);
+        due(2, "one was sent away", x.count(6), 1);
+        x.turn(20);
+        x.drop(2, 4);
+        x.read(0, 3);
+        x.store(1, 7, 7);
+        due(2, "a back, a read and an own wait", x.waiting(-1, 0), 3);
         due(2, "begin(4, 1, 9, 1)", x.begin(4, 1, 9, 1), 4);
         int[] counts = {4, 1, 9, 1, 0, 0, 0, 0, 0, 0, 7};
         for (int what = 0; what < counts.length; what++) {
@@ -148,6 +160,7 @@ public final class PromiseTest {
         due(2, "memory", x.memory(2), 0);
         due(2, "truth", x.truth(7), 0);
         due(2, "cached", x.cached(0, 2, 0), 0);
+        due(2, "the buffer", bufferOf(x, 2), "");
         due(2, "last value", x.core(0, 0), NONE);
         due(2, "op", x.core(0, 1), 0);
         due(2, "waits", waitsOf(x), "");
