@@ -1,95 +1,5 @@
 /** Each promise by hand: ordinary inputs, the edges that the document names, and wrong inputs. */
-public final class PromiseTest {
-    private static final int BAD = -1, NO = -2, FULL = -3, NONE = -4, WAITS = -5;
-    private static final int LOW = Integer.MIN_VALUE, HIGH = Integer.MAX_VALUE;
-    private static int wrong = 0;
-
-    private static void due(int promise, String call, int got, int want) {
-        if (got != want) {
-            wrong++;
-            System.out.println("promise " + promise + ": " + call + " answered " + got + ", due is " + want);
-        }
-    }
-
-    private static void due(int promise, String call, String got, String want) {
-        if (!got.equals(want)) {
-            wrong++;
-            System.out.println("promise " + promise + ": " + call + " told '" + got + "', due is '" + want + "'");
-        }
-    }
-
-    private static SplitWatch made(int c, int k, int fast, int slow) {
-        SplitWatch x = new SplitWatch();
-        due(2, "begin", x.begin(c, k, fast, slow), c);
-        return x;
-    }
-
-    private static void type(SplitWatch x, String text) {
-        int before = x.count(10);
-        for (int i = 0; i < text.length(); i++) {
-            due(7, "write", x.write(text.charAt(i)), before + i + 1);
-        }
-    }
-
-    private static String orderOf(SplitWatch x) {
-        StringBuilder line = new StringBuilder();
-        int length = x.order(-1);
-        for (int i = 0; i < length; i++) {
-            line.append((char) x.order(i));
-        }
-        return line.toString();
-    }
-
-    private static String wordOf(SplitWatch x, int c, int l) {
-        StringBuilder word = new StringBuilder();
-        int length = x.word(c, l, -1);
-        for (int i = 0; i < length; i++) {
-            word.append((char) x.word(c, l, i));
-        }
-        return word.toString();
-    }
-
-    /** Each as core, kind, line @ place + times sent away. */
-    private static String waitsOf(SplitWatch x) {
-        StringBuilder rows = new StringBuilder();
-        for (int i = 0; i < x.waiting(-1, 0); i++) {
-            rows.append(x.waiting(i, 0)).append("ROUB".charAt(x.waiting(i, 1))).append(x.waiting(i, 2));
-            rows.append('@').append(x.waiting(i, 3)).append('+').append(x.waiting(i, 4)).append(' ');
-        }
-        return rows.toString().trim();
-    }
-
-    /** Each as core, kind, line @ due = as what it is to be. */
-    private static String opensOf(SplitWatch x) {
-        StringBuilder rows = new StringBuilder();
-        for (int i = 0; i < x.open(-1, 0); i++) {
-            rows.append(x.open(i, 0)).append("RO".charAt(x.open(i, 1))).append(x.open(i, 2));
-            rows.append('@').append(x.open(i, 3)).append('=').append(x.open(i, 4)).append(' ');
-        }
-        return rows.toString().trim();
-    }
-
-    private static String bufferOf(SplitWatch x, int c) {
-        StringBuilder rows = new StringBuilder();
-        for (int i = 0; i < x.buffered(c, -1, 0); i++) {
-            rows.append(x.buffered(c, i, 0)).append('=').append(x.buffered(c, i, 1)).append(' ');
-        }
-        return rows.toString().trim();
-    }
-
-    /** Stores to lines, one behind the other, each waited for: line, value, line, value, .. */
-    private static void own(SplitWatch x, int c, int... linesAndValues) {
-        for (int i = 0; i + 1 < linesAndValues.length; i += 2) {
-            due(4, "store", x.store(c, linesAndValues[i], linesAndValues[i + 1]), WAITS);
-            due(6, "turn", x.turn(20), 1);
-        }
-    }
-
-    private static void fetch(SplitWatch x, int c, int l) {
-        due(3, "read", x.read(c, l), WAITS);
-        due(6, "turn", x.turn(20), 1);
-    }
-
+public final class PromiseTest extends Bench {
     /** Two cores share line 0 with value 5. */
     private static SplitWatch shared(int fast, int slow) {
         SplitWatch x = made(2, 2, fast, slow);
@@ -962,9 +872,6 @@ public final class PromiseTest {
         waitingAndOpen();
         day();
         count();
-        System.out.println(wrong == 0 ? "all answers are as due" : wrong + " answers are not as due");
-        if (wrong != 0) {
-            System.exit(1);
-        }
+        finish();
     }
 }
