@@ -119,7 +119,9 @@ public final class CallEdgeTest extends Bench {
         int[][] ends = {{2, 1, 1, 1}, {4, 4, 9, 9}, {2, 4, 1, 9}, {4, 1, 9, 1}, {3, 2, 1, 3}};
         for (int[] e : ends) {
             SplitWatch x = made(Bench::busy);
-            x.turn(2);
+            x.drop(1, 1);
+            x.turn(3);
+            due("one was sent away, one beaten", x.count(6) * 10 + x.count(7), 11);
             due("begin", x.begin(e[0], e[1], e[2], e[3]), e[0]);
             SplitWatch y = made(e[0], e[1], e[2], e[3]);
             type(y, "turn 4;read 2 1;drop 0 1;store 0 0 5;");
@@ -382,6 +384,13 @@ public final class CallEdgeTest extends Bench {
         }
         due("how many, by none that is told", x.open(-1, 5), BAD);
         due("BAD ahead of NONE", x.open(2, 5), BAD);
+        x = made(4, 2, 1, 9);
+        x.read(3, 3);
+        x.store(0, 0, 1);
+        x.read(2, 2);
+        x.store(1, 1, 1);
+        x.turn(4);
+        due("not by cores, nor by kinds", opensOf(x), "3R3@10=2 0O0@11=3 2R2@12=2 1O1@13=3");
         due("none is open", new SplitWatch().open(0, 0), NONE);
         due("none is open", new SplitWatch().open(-1, 0), 0);
     }

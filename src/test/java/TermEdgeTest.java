@@ -253,6 +253,13 @@ public final class TermEdgeTest extends Bench {
         x.begin(3, 2, 1, 9);
         x.read(1, 0);
         due("all as at first", waitsOf(x), "1R0@0+0");
+        x.turn(1);
+        x.read(2, 0);
+        x.turn(3);
+        due("sent away 3 times", waitsOf(x), "2R0@4+3");
+        x.turn(20);
+        x.read(2, 1);
+        due("the next op of that core 0 times", waitsOf(x), "2R1@10+0");
     }
 
     private static void turns() {
@@ -312,6 +319,14 @@ public final class TermEdgeTest extends Bench {
         due("due two turns ago", x.turn(1), 1);
         due("none is left", x.turn(1), 0);
         due("answers", x.count(9), 4);
+        x = made(3, 2, 1, 2);
+        own(x, 2, 1, 9);
+        x.read(0, 0);
+        x.store(1, 1, 5);
+        x.turn(2);
+        due("a read and an own, due at once", opensOf(x), "0R0@23=2 1O1@23=3");
+        due("one", x.turn(1), 1);
+        due("the own is the later one", opensOf(x), "1O1@23=3");
     }
 
     /** Core 1's read of line 0 was sent away so often, core 2's of line 5 has a lower place; the next turn frees line 0. */

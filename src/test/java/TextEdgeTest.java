@@ -100,7 +100,8 @@ public final class TextEdgeTest extends Bench {
     private static void words() {
         sentence("no such word");
         String[] words = {"", "r", "rea", "reads", "Read", "READ", "reed", "read0", "t", "tur", "turns", "Turn", "store ", "stor",
-            "stores", "Store", "drops", "dro", "Drop", "begin", "write", "wipe", "play", "fault", "readread", "{ead", "`ead"};
+            "stores", "Store", "drops", "dro", "Drop", "begin", "write", "wipe", "play", "fault", "readread", "{ead", "`ead",
+            "bead", "read{", "rezd", "reaz", "burn", "tern", "turm", "ttore", "score", "storz", "crop", "dzop", "dror"};
         for (String word : words) {
             faulty(word + " 0 0;");
             faulty(word + " 1;");
