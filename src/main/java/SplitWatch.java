@@ -447,27 +447,36 @@ public final class SplitWatch {
         }
     }
 
-    /** The order of all requests: how many there were, and the letters of the last ones. */
+    /**
+     * The order of all requests: how many there were, and the letters of the last ones. Where the next one goes
+     * is held apart from how many there were, so that it is an index whatever that number has come to.
+     */
     private static final class Log {
         private static final int KEPT = 16, LETTERS = 3, STEP = LETTERS + 1;
 
         private final char[] letters = new char[KEPT * LETTERS];
         private int total;
+        private int size;
+        private int next;
+
+        private void clear() {
+            total = 0;
+            size = 0;
+            next = 0;
+        }
 
         private void add(int core, char kind, int line) {
-            int at = total % KEPT * LETTERS;
+            int at = next * LETTERS;
             letters[at] = (char) ('0' + core);
             letters[at + 1] = kind;
             letters[at + 2] = (char) ('0' + line);
             total++;
-        }
-
-        private int size() {
-            return Math.min(total, KEPT);
+            size = Math.min(size + 1, KEPT);
+            next = (next + 1) % KEPT;
         }
 
         private int lineLength() {
-            return total == 0 ? 0 : size() * STEP - 1;
+            return size == 0 ? 0 : size * STEP - 1;
         }
 
         private int letterAt(int i) {
@@ -475,13 +484,13 @@ public final class SplitWatch {
             if (part == LETTERS) {
                 return ' ';
             }
-            int entry = (total - size() + i / STEP) % KEPT;
+            int entry = (KEPT + next - size + i / STEP) % KEPT;
             return letters[entry * LETTERS + part];
         }
 
         private int matches(int core, int kind, int line) {
             int found = 0;
-            for (int entry = 0; entry < size(); entry++) {
+            for (int entry = 0; entry < size; entry++) {
                 int at = entry * LETTERS;
                 if (fits(core, letters[at]) && fits(kind, letters[at + 1]) && fits(line, letters[at + 2])) {
                     found++;
@@ -535,7 +544,7 @@ public final class SplitWatch {
             beaten = 0;
             ended = 0;
             answers = 0;
-            log.total = 0;
+            log.clear();
             for (int c = 0; c < MAX_CORES; c++) {
                 cores[c].clear();
             }

@@ -586,6 +586,13 @@ public final class PromiseTest extends Bench {
             due(12, "told, a bad letter", x.told(42, 42, b), BAD);
         }
         due(12, "nothing yet", new SplitWatch().told(42, 42, 42), 0);
+
+        x.begin(3, 1, 1, 1);
+        due(12, "none of what was ahead of begin", x.told(42, 42, 42), 0);
+        fetch(x, 2, 4);
+        due(11, "the first behind begin", orderOf(x), "2R4");
+        due(12, "the first behind begin", x.told('2', 'R', '4'), 1);
+        due(12, "and no other", x.told(42, 42, 42), 1);
     }
 
     private static void word() {
